@@ -23,11 +23,10 @@ public final class LawWorlds {
     private static final int PUT = 3;
 
     private final State now = new State();
-    private final History history = new History(now);
+    private final History history = new History();
     private final Shelf shelf = new Shelf();
     private final Bench bench = new Bench();
-    private final PlainWorlds plainWorlds = new PlainWorlds();
-    private final Search search = new Search(bench, plainWorlds);
+    private final Search search = new Search();
     private final Reader reader = new Reader();
     private final char[] text = new char[MOST_TYPED];
     private int typed;
@@ -45,7 +44,7 @@ public final class LawWorlds {
             return NONE;
         }
         int previous = now.code;
-        history.record();
+        history.record(now);
         now.size = size;
         now.code = code;
         return previous;
@@ -81,7 +80,7 @@ public final class LawWorlds {
         if (code == now.code) {
             return NONE;
         }
-        history.record();
+        history.record(now);
         now.code = code;
         return code;
     }
@@ -96,9 +95,9 @@ public final class LawWorlds {
         if (now.lawCount + reader.lawCount > MOST_LAWS) {
             return FULL;
         }
-        history.record();
+        history.record(now);
         for (int i = 0; i < reader.lawCount; i++) {
-            now.add(shelf.bring(reader, i, history));
+            now.add(shelf.bring(reader, i, now, history));
         }
         return reader.lawCount;
     }
@@ -107,7 +106,7 @@ public final class LawWorlds {
         if (!now.hasLaw(law)) {
             return UNKNOWN;
         }
-        history.record();
+        history.record(now);
         now.remove(law);
         return now.lawCount;
     }
@@ -119,7 +118,7 @@ public final class LawWorlds {
         if (now.on[law] == on) {
             return NONE;
         }
-        history.record();
+        history.record(now);
         now.on[law] = on;
         return now.onCount();
     }
@@ -131,7 +130,7 @@ public final class LawWorlds {
         if (search.findWitnesses(now, law) == 0) {
             return NONE;
         }
-        history.record();
+        history.record(now);
         now.size = search.witnessNumber(0, 0);
         now.code = search.witnessNumber(0, 1);
         return now.code;
@@ -157,11 +156,11 @@ public final class LawWorlds {
     // ---- history
 
     public int undo() {
-        return history.goBack() ? history.stateCount : NONE;
+        return history.goBack(now) ? history.stateCount : NONE;
     }
 
     public int keep() {
-        history.takeSnapshot();
+        history.takeSnapshot(now);
         return now.lawCount;
     }
 
@@ -169,8 +168,8 @@ public final class LawWorlds {
         if (!history.hasSnapshot) {
             return NONE;
         }
-        history.record();
-        history.bringSnapshot();
+        history.record(now);
+        history.bringSnapshot(now);
         return now.lawCount;
     }
 
@@ -477,11 +476,15 @@ public final class LawWorlds {
             return set;
         }
 
+        static boolean isIn(int set, int member) {
+            return (set >> member & 1) == 1;
+        }
+
         static int withProducts(int size, int code, int set) {
             int grown = set;
             for (int a = 0; a < size; a++) {
                 for (int b = 0; b < size; b++) {
-                    if ((set >> a & 1) == 1 && (set >> b & 1) == 1) {
+                    if (isIn(set, a) && isIn(set, b)) {
                         grown |= 1 << product(size, code, a, b);
                     }
                 }
@@ -605,17 +608,12 @@ public final class LawWorlds {
 
     /** The states that were, the oldest first, and the snapshot. */
     private static final class History {
-        private final State present;
         private final State[] past = {new State(), new State(), new State(), new State()};
         private final State snapshot = new State();
         int stateCount;
         boolean hasSnapshot;
 
-        History(State present) {
-            this.present = present;
-        }
-
-        void record() {
+        void record(State present) {
             if (stateCount == MOST_STATES) {
                 dropOldest();
             }
@@ -633,7 +631,7 @@ public final class LawWorlds {
             stateCount--;
         }
 
-        boolean goBack() {
+        boolean goBack(State present) {
             if (stateCount == 0) {
                 return false;
             }
@@ -642,12 +640,12 @@ public final class LawWorlds {
             return true;
         }
 
-        void takeSnapshot() {
+        void takeSnapshot(State present) {
             snapshot.copyFrom(present);
             hasSnapshot = true;
         }
 
-        void bringSnapshot() {
+        void bringSnapshot(State present) {
             present.copyFrom(snapshot);
         }
 
@@ -657,7 +655,7 @@ public final class LawWorlds {
                     return true;
                 }
             }
-            return present.uses(asked) || hasSnapshot && snapshot.uses(asked);
+            return hasSnapshot && snapshot.uses(asked);
         }
     }
 
@@ -676,7 +674,7 @@ public final class LawWorlds {
             }
         }
 
-        Law bring(Reader reader, int number, History history) {
+        Law bring(Reader reader, int number, State present, History history) {
             int from = reader.lawStart(number);
             int to = reader.lawEnd(number);
             for (int i = 0; i < PLACES; i++) {
@@ -685,7 +683,7 @@ public final class LawWorlds {
                 }
             }
             for (int i = 0; i < PLACES; i++) {
-                if (!history.uses(places[i])) {
+                if (!present.uses(places[i]) && !history.uses(places[i])) {
                     places[i].become(reader.steps, from, to);
                     return places[i];
                 }
@@ -899,13 +897,13 @@ public final class LawWorlds {
             for (int thing = 0; thing < MOST_THINGS; thing++) {
                 same |= parts[thing] & parts[MOST_THINGS + thing];
             }
-            return (1 << caseCount()) - 1 & ~same;
+            return ((1 << caseCount()) - 1) & ~same;
         }
 
         int thingOf(boolean right, int number) {
             int part = right ? MOST_THINGS : 0;
             for (int thing = 1; thing < MOST_THINGS; thing++) {
-                if ((parts[part + thing] >> number & 1) == 1) {
+                if (Codes.isIn(parts[part + thing], number)) {
                     return thing;
                 }
             }
@@ -915,7 +913,10 @@ public final class LawWorlds {
 
     /** All worlds that have a plain code as their code, by size and code. */
     private static final class PlainWorlds {
-        final int[] codes = new int[PLAIN_WORLDS];
+        /** In a long. */
+        private static final int BITS = 64;
+
+        private final int[] codes = new int[PLAIN_WORLDS];
         private final byte[] alikeCounts = new byte[PLAIN_WORLDS];
         private final int[] starts = new int[MOST_THINGS + 2];
         private int listed;
@@ -925,7 +926,7 @@ public final class LawWorlds {
             if (listed > 0) {
                 return;
             }
-            long[] seen = new long[Codes.worldCount(MOST_THINGS) / Long.SIZE + 1];
+            long[] seen = new long[Codes.worldCount(MOST_THINGS) / BITS + 1];
             for (int size = 1; size <= MOST_THINGS; size++) {
                 starts[size] = listed;
                 for (int i = 0; i < seen.length; i++) {
@@ -948,9 +949,9 @@ public final class LawWorlds {
             int alikes = 0;
             for (int i = 0; i < Codes.renamingCount(size); i++) {
                 int image = Codes.renamed(size, code, i);
-                int place = image / Long.SIZE;
+                int place = image / BITS;
                 if (!isIn(seen, image) && place < seen.length) {
-                    seen[place] |= 1L << image % Long.SIZE;
+                    seen[place] |= 1L << image % BITS;
                     alikes++;
                 }
             }
@@ -959,8 +960,8 @@ public final class LawWorlds {
         }
 
         private static boolean isIn(long[] seen, int code) {
-            int place = code / Long.SIZE;
-            return place >= 0 && place < seen.length && (seen[place] >> code % Long.SIZE & 1) == 1;
+            int place = code / BITS;
+            return place >= 0 && place < seen.length && (seen[place] & 1L << code % BITS) != 0;
         }
 
         int start(int size) {
@@ -986,18 +987,13 @@ public final class LawWorlds {
 
     /** Looks for models and witnesses among the plain worlds. */
     private static final class Search {
-        private final Bench bench;
-        private final PlainWorlds plainWorlds;
+        private final Bench bench = new Bench();
+        private final PlainWorlds plainWorlds = new PlainWorlds();
         private final Law[] demanded = new Law[MOST_LAWS];
         private int demandedCount;
         private final int[] told = new int[MOST_TOLD];
         private final int[] toldBroken = new int[MOST_TOLD];
         private int toldCount;
-
-        Search(Bench bench, PlainWorlds plainWorlds) {
-            this.bench = bench;
-            this.plainWorlds = plainWorlds;
-        }
 
         int countModels(State state, int size, boolean all) {
             demand(state, NONE);

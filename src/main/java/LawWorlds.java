@@ -15,6 +15,7 @@ public final class LawWorlds {
     private static final int MOST_BRACKETS = 3;
     private static final int FAULT_BASE = -100;
     private static final int NO_FAULT = -1;
+    private static final int NO_LAW = -1;
 
     /** Up to likeness there are 1, 10 and 3330 worlds of one, two and three things. */
     private static final int PLAIN_WORLDS = 3341;
@@ -261,9 +262,7 @@ public final class LawWorlds {
         if (rank < 0 || what < 0 || what > 2) {
             return BAD_VALUE;
         }
-        if (rank >= search.findWitnesses(now, law)) {
-            return NONE;
-        }
+        search.findWitnesses(now, law);
         return search.witnessNumber(rank, what);
     }
 
@@ -410,11 +409,16 @@ public final class LawWorlds {
         }
 
         static int renamed(int size, int code, int renaming) {
+            if (!isSize(size)) {
+                return code;
+            }
             int image = 0;
+            int rest = code;
             for (int a = 0; a < size; a++) {
                 int row = size * newName(renaming, a);
                 for (int b = 0; b < size; b++) {
-                    int value = newName(renaming, product(size, code, a, b));
+                    int value = newName(renaming, rest % size);
+                    rest = rest / size;
                     image += value * power(size, row + newName(renaming, b));
                 }
             }
@@ -614,7 +618,7 @@ public final class LawWorlds {
         boolean hasSnapshot;
 
         void record(State present) {
-            if (stateCount == MOST_STATES) {
+            if (stateCount >= MOST_STATES) {
                 dropOldest();
             }
             past[stateCount].copyFrom(present);
@@ -822,8 +826,8 @@ public final class LawWorlds {
      * the thing 0, 1 or 2 comes of it.
      */
     private static final class Bench {
-        /** The left side, and at most two parts at each depth of the right side's brackets. */
-        private static final int MOST_PARTS = 1 + 2 * (MOST_BRACKETS + 1);
+        /** The left side, a part of the right one that waits at each depth, and the one put to it. */
+        private static final int MOST_PARTS = 1 + (MOST_BRACKETS + 1) + 1;
 
         private final int[] table = new int[MOST_THINGS * MOST_THINGS];
         private final int[] letters = new int[3 * MOST_THINGS];
@@ -846,15 +850,12 @@ public final class LawWorlds {
             }
         }
 
-        private int caseCount() {
-            return size * size * size;
-        }
-
         private void fillLetters() {
             for (int i = 0; i < letters.length; i++) {
                 letters[i] = 0;
             }
-            for (int i = 0; i < caseCount() && size > 0; i++) {
+            int cases = size * size * size;
+            for (int i = 0; i < cases && size > 0; i++) {
                 letters[i % size] |= 1 << i;
                 letters[MOST_THINGS + i / size % size] |= 1 << i;
                 letters[2 * MOST_THINGS + i / (size * size)] |= 1 << i;
@@ -897,7 +898,8 @@ public final class LawWorlds {
             for (int thing = 0; thing < MOST_THINGS; thing++) {
                 same |= parts[thing] & parts[MOST_THINGS + thing];
             }
-            return ((1 << caseCount()) - 1) & ~same;
+            int all = (1 << size * size * size) - 1;
+            return all & ~same;
         }
 
         int thingOf(boolean right, int number) {
@@ -996,7 +998,8 @@ public final class LawWorlds {
         private int toldCount;
 
         int countModels(State state, int size, boolean all) {
-            demand(state, NONE);
+            plainWorlds.list();
+            demand(state, NO_LAW);
             int found = 0;
             for (int i = plainWorlds.start(size); i < plainWorlds.end(size); i++) {
                 if (isModel(i)) {
@@ -1007,7 +1010,8 @@ public final class LawWorlds {
         }
 
         int modelCode(State state, int size, int rank) {
-            demand(state, NONE);
+            plainWorlds.list();
+            demand(state, NO_LAW);
             int before = 0;
             for (int i = plainWorlds.start(size); i < plainWorlds.end(size); i++) {
                 if (isModel(i)) {
@@ -1023,11 +1027,12 @@ public final class LawWorlds {
         /** Returns how many are told. */
         int findWitnesses(State state, int number) {
             toldCount = 0;
-            demand(state, number);
             Law law = state.lawAt(number);
             if (law == null) {
                 return 0;
             }
+            plainWorlds.list();
+            demand(state, number);
             countBroken(law);
             for (int i = 0; i < PLAIN_WORLDS; i++) {
                 int broken = law.brokenAt(i);
@@ -1038,7 +1043,7 @@ public final class LawWorlds {
             return toldCount;
         }
 
-        /** Of the witness of this rank: its size (0), its code (1), how many cases are broken (2). */
+        /** The size (0), the code (1) or the broken cases (2) of one that was found; NONE without it. */
         int witnessNumber(int rank, int what) {
             if (rank < 0 || rank >= toldCount) {
                 return NONE;
@@ -1051,7 +1056,6 @@ public final class LawWorlds {
 
         /** Sets the laws that a model has to keep: all that are on, but for the one left out. */
         private void demand(State state, int leftOut) {
-            plainWorlds.list();
             demandedCount = 0;
             for (int i = 0; i < state.lawCount; i++) {
                 Law law = state.lawAt(i);

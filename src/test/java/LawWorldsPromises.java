@@ -70,6 +70,7 @@ public final class LawWorldsPromises {
         clearText();
         undo();
         undoOfEachAct();
+        lawsOfOldStates();
         errorsRecordNothing();
         keepAndRestore();
         of();
@@ -392,6 +393,12 @@ public final class LawWorldsPromises {
         write(x, full);
         due("count(5)", x.count(5), 60);
         due("addLaws()", x.addLaws(), 4);
+        for (int law = 0; law < 3; law++) {
+            due("letters of law " + law, x.law(law, 2), 16);
+            due("cases of law " + law, x.law(law, 1), 0);
+        }
+        due("letters of law 3", x.law(3, 2), 3);
+        due("set of law 3", x.law(3, 3), 7);
         write(x, "xyzxyzxy=xyzxyzxy;xyzxyzxy=xyzxyzxy;xyzxyzxy=xyzxyzxy;(xx)=(");
         due("addLaws()", x.addLaws(), -160);
     }
@@ -457,6 +464,39 @@ public final class LawWorldsPromises {
             due("law(0, 3), act " + act, x.law(0, 3), 3);
             due("law(1, 3), act " + act, x.law(1, 3), 6);
             due("law(1, 0), act " + act, x.law(1, 0), 0);
+        }
+    }
+
+    /** No law of a state that can come back gives way to a newer one. */
+    private static void lawsOfOldStates() {
+        promise = "12, laws of old states";
+        LawWorlds x = new LawWorlds();
+        add(x, "xxx=y");
+        x.removeLaw(0);
+        x.take(2, 1);
+        x.take(2, 2);
+        add(x, "z=z");
+        due("law(0, 2)", x.law(0, 2), 2);
+        for (int left = 3; left >= 0; left--) {
+            due("undo()", x.undo(), left);
+        }
+        due("law(0, 2) of the oldest state", x.law(0, 2), 4);
+        x = new LawWorlds();
+        x.keep();
+        add(x, "x=y;x=z;y=x;y=z;z=x");
+        x.restore();
+        add(x, "xx=y;xx=z;yy=x;yy=z;zz=x");
+        x.restore();
+        due("five more laws", add(x, "xxx=y;xxx=z;yyy=x;yyy=z;zzz=x"), 5);
+        for (int letters = 4; letters >= 2; letters--) {
+            int[] sets = {3, 5, 3, 6, 5};
+            due("count(0)", x.count(0), 5);
+            for (int law = 0; law < 5; law++) {
+                due("letters of law " + law, x.law(law, 2), letters);
+                due("set of law " + law, x.law(law, 3), sets[law]);
+            }
+            due("undo() to no laws", x.undo(), letters == 4 ? 3 : letters == 3 ? 1 : NONE);
+            x.undo();
         }
     }
 
@@ -723,6 +763,18 @@ public final class LawWorldsPromises {
         for (int off : OFF_INTS) {
             due("law off", x.side(off, false, 0), UNKNOWN);
             due("case off", x.side(0, false, off), BAD);
+        }
+        add(x, "x(y(z(xy)))=x(y(z(xy)));xyzxyzxy=x(y(zxyzxy))");
+        for (int number = 0; number < 27; number++) {
+            int a = number % 3;
+            int b = number / 3 % 3;
+            int c = number / 9;
+            int deep = table[3 * a + table[3 * b + table[3 * c + table[3 * a + b]]]];
+            due("deep left side in " + number, x.side(1, false, number), deep);
+            due("deep right side in " + number, x.side(1, true, number), deep);
+            int row = table[3 * table[3 * table[3 * a + b] + c] + a];
+            row = table[3 * table[3 * table[3 * table[3 * row + b] + c] + a] + b];
+            due("long side in " + number, x.side(2, false, number), row);
         }
         x.turnLaw(0, false);
         x.take(2, 4);

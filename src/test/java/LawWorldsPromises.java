@@ -837,8 +837,7 @@ public final class LawWorldsPromises {
     private static void model() {
         promise = "21";
         LawWorlds x = new LawWorlds();
-        int[] two = {0, 1, 2, 3, 4, 6, 8, 9, 10, 12};
-        int[] told = new int[10];
+        int[] two = {0, 1, 2, 3, 4, 5, 6, 8, 10, 12};
         int[] plain = new int[16];
         int plains = 0;
         for (int code = 0; code < 16; code++) {
@@ -849,8 +848,8 @@ public final class LawWorldsPromises {
         }
         due("plain codes of two things", plains, two.length);
         for (int rank = 0; rank < 10; rank++) {
-            told[rank] = x.model(2, rank);
-            due("model(2, " + rank + ")", told[rank], plain[rank]);
+            due("plain code of rank " + rank, plain[rank], two[rank]);
+            due("model(2, " + rank + ")", x.model(2, rank), two[rank]);
         }
         due("model(2, 10)", x.model(2, 10), NONE);
         due("model(1, 0)", x.model(1, 0), 0);

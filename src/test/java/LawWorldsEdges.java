@@ -58,6 +58,7 @@ public final class LawWorldsEdges {
         twelveWitnesses();
         follows();
         pairs();
+        pairsPutTogether();
         mostTyped();
         lawsOfText();
         sidesOfText();
@@ -127,7 +128,8 @@ public final class LawWorldsEdges {
             due("put, call " + call, x.put(1, 1, call % 2), call % 2 * 8);
         }
         x = with(2, 0, "xy=yx;x=x");
-        for (int call = 10; call < 511; call++) {
+        // Twelve calls have been made: take, clearText, nine of type, addLaws.
+        for (int call = 13; call < 511; call++) {
             x.refute(0);
         }
         due("count(3), call 511", x.count(3), 1);
@@ -518,7 +520,7 @@ public final class LawWorldsEdges {
             LawWorlds x = new LawWorlds();
             for (int rank = 0; rank < told[size]; rank++) {
                 // An object is used for 512 calls alone.
-                x = rank % 200 == 0 ? new LawWorlds() : x;
+                x = rank % 100 == 0 ? new LawWorlds() : x;
                 int code = x.model(size, rank);
                 due("rank " + rank + " rises, 1", code > before ? 1 : 0, 1);
                 x.take(size, code);
@@ -691,6 +693,34 @@ public final class LawWorldsEdges {
         due("the world of now is as before", x.world(1), 10);
     }
 
+    private static boolean[] same(LawWorlds x, int law) {
+        boolean[] same = new boolean[power(x.world(0), 3)];
+        for (int number = 0; number < same.length; number++) {
+            same[number] = x.side(law, false, number) == x.side(law, true, number);
+        }
+        return same;
+    }
+
+    private static void pairsPutTogether() {
+        says("of two of them comes the pair of what comes of their first things and of their second things.");
+        String laws = "xy=yx;xyz=x(yz);xx=y";
+        int[][] worlds = {{1, 0}, {2, 1}, {2, 6}, {3, 5000}, {3, 19682}};
+        for (int[] one : worlds) {
+            for (int[] other : worlds) {
+                for (int law = 0; law < 3; law++) {
+                    LawWorlds x = with(one[0], one[1], laws);
+                    int broken = 0;
+                    for (boolean first : same(x, law)) {
+                        for (boolean second : same(with(other[0], other[1], laws), law)) {
+                            broken += first && second ? 0 : 1;
+                        }
+                    }
+                    due("law " + law + " of " + one[1] + " and " + other[1], x.paired(other[0], other[1], law), broken);
+                }
+            }
+        }
+    }
+
     // ---- texts
 
     private static void mostTyped() {
@@ -827,15 +857,16 @@ public final class LawWorldsEdges {
         says("brackets go at most 3 deep.");
         // Whatever is open waits while what is within it is worked out, on both sides.
         LawWorlds x = with(3, 5001, "x(y(z(xy)))=z(y(x(zy)));x(y(z))=xy(z(zy(xz))x)");
+        LawWorlds w = at(3, 5001);
         for (int number = 0; number < 27; number++) {
             int a = number % 3;
             int b = number / 3 % 3;
             int c = number / 9;
-            due("deep left side in " + number, x.side(0, false, number), x.of(a, x.of(b, x.of(c, x.of(a, b)))));
-            due("deep right side in " + number, x.side(0, true, number), x.of(c, x.of(b, x.of(a, x.of(c, b)))));
-            int within = x.of(x.of(c, b), x.of(a, c));
-            due("left side in " + number, x.side(1, false, number), x.of(a, x.of(b, c)));
-            due("right side in " + number, x.side(1, true, number), x.of(x.of(a, b), x.of(x.of(c, within), a)));
+            due("deep left side in " + number, x.side(0, false, number), w.of(a, w.of(b, w.of(c, w.of(a, b)))));
+            due("deep right side in " + number, x.side(0, true, number), w.of(c, w.of(b, w.of(a, w.of(c, b)))));
+            int within = w.of(w.of(c, b), w.of(a, c));
+            due("left side in " + number, x.side(1, false, number), w.of(a, w.of(b, c)));
+            due("right side in " + number, x.side(1, true, number), w.of(w.of(a, b), w.of(w.of(c, within), a)));
         }
     }
 

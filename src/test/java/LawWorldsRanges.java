@@ -56,9 +56,14 @@ public final class LawWorldsRanges {
         return answer < 0 && answer != NONE;
     }
 
+    /** Of a long range the beginning and the last two values are tried, of a short one all. */
+    private static int next(int value, int first, int last) {
+        return Math.max(value + 1, value < first + 200 ? 0 : last - 1);
+    }
+
     /** All values from the first to the last are no error, all others are this error; each on an object of its own. */
     private static void range(String argument, Made made, int first, int last, int error, Call call) {
-        for (int value = first; value <= last; value = value < first + 200 || value >= last - 1 ? value + 1 : last - 1) {
+        for (int value = first; value <= last; value = next(value, first, last)) {
             int answer = call.on(made.one(), value);
             if (isError(answer)) {
                 fail(argument + " of " + value + " answered " + answer);

@@ -510,15 +510,20 @@ public final class LawWorlds {
         byte[] brokenIn;
         boolean isCounted;
 
+        static boolean isLetter(int step) {
+            return step >= 0 && step < PUT;
+        }
+
         void become(int[] source, int from, int to) {
             stepCount = 0;
             letterCount = 0;
             letterSet = 0;
             isCounted = false;
-            for (int i = from; i < to && stepCount < MOST_STEPS; i++) {
+            int end = Math.min(to, source.length);
+            for (int i = Math.max(from, 0); i < end && stepCount < MOST_STEPS; i++) {
                 steps[stepCount] = source[i];
                 stepCount++;
-                if (source[i] != PUT) {
+                if (isLetter(source[i])) {
                     letterCount++;
                     letterSet |= 1 << source[i];
                 }
@@ -526,7 +531,7 @@ public final class LawWorlds {
         }
 
         boolean hasSteps(int[] source, int from, int to) {
-            if (stepCount != to - from) {
+            if (from < 0 || to > source.length || stepCount != to - from) {
                 return false;
             }
             for (int i = 0; i < stepCount; i++) {
@@ -836,7 +841,7 @@ public final class LawWorlds {
         private int size;
 
         void open(int newSize, int code) {
-            if (!Codes.isSize(newSize)) {
+            if (!Codes.isSize(newSize) || code < 0) {
                 return;
             }
             if (size != newSize) {
@@ -870,7 +875,7 @@ public final class LawWorlds {
                 if (step == PUT && count >= 2) {
                     count--;
                     join(MOST_THINGS * (count - 1), MOST_THINGS * count);
-                } else if (step != PUT && count < MOST_PARTS) {
+                } else if (Law.isLetter(step) && count < MOST_PARTS) {
                     for (int thing = 0; thing < MOST_THINGS; thing++) {
                         parts[MOST_THINGS * count + thing] = letters[MOST_THINGS * step + thing];
                     }
@@ -952,7 +957,7 @@ public final class LawWorlds {
             for (int i = 0; i < Codes.renamingCount(size); i++) {
                 int image = Codes.renamed(size, code, i);
                 int place = image / BITS;
-                if (!isIn(seen, image) && place < seen.length) {
+                if (place >= 0 && place < seen.length && !isIn(seen, image)) {
                     seen[place] |= 1L << image % BITS;
                     alikes++;
                 }
